@@ -47,16 +47,24 @@ public final class ModelTests {
       int[] f = Due.five(text, from);
       is("feed", x.feed(f[0], f[1], f[2], f[3], f[4]), model.feed(f));
     }
+    int n = upTo(text.length());
+    if (n < 0 || n > 1600) is("end(" + n + ")", x.end(n), model.end(n));
     is("end", x.end(text.length()), model.end(text.length()));
     is("library for " + text, x.library(), model.library());
     is("fault(0) for " + text, x.fault(0), model.fault(0));
     is("fault(1) for " + text, x.fault(1), model.fault(1));
   }
 
-  /** Below a bound, now and then beside it. */
+  /** Below a bound, now and then beside it, or far from it. */
   private int upTo(int count) {
+    if (random.nextInt(100) == 0) return far();
     return random.nextInt(25) == 0 ? random.nextInt(6) - 3 + (random.nextBoolean() ? count : 0)
         : count <= 0 ? 0 : random.nextInt(count);
+  }
+
+  private int far() {
+    int[] all = {Integer.MIN_VALUE, Integer.MAX_VALUE, Integer.MIN_VALUE + 1, -1000000, 1 << 30, 63, 64, 1024, 31, 32};
+    return random.nextInt(3) == 0 ? random.nextInt() : all[random.nextInt(all.length)];
   }
 
   private int topic() { return upTo(model.about(0)); }
@@ -64,7 +72,7 @@ public final class ModelTests {
   private int reader() { return upTo(model.about(2)); }
   private int party() { return upTo(1 << model.about(2)); }
   private int m() { return random.nextInt(20) == 0 ? upTo(4) : random.nextInt(4) == 0 ? 2 : 1; }
-  private int time() { return model.about(10) - random.nextInt(8) + (random.nextInt(6) == 0 ? 3 : 0); }
+  private int time() { return random.nextInt(40) == 0 ? far() : model.about(10) - random.nextInt(8) + (random.nextInt(6) == 0 ? 3 : 0); }
 
   private void call() {
     switch (random.nextInt(6)) {
@@ -119,8 +127,8 @@ public final class ModelTests {
     int set = random.nextInt(4) == 0 ? upTo(1 << model.about(1))
         : random.nextInt(1 << model.about(1)) & ~model.about(4);
     int visits = random.nextInt(12) == 0 ? upTo(4) : 1 + random.nextInt(3);
-    int n = random.nextInt(10) == 0 ? random.nextInt(63) - 1 : 1 + random.nextInt(20);
-    int s = random.nextInt(14) - 1;
+    int n = random.nextInt(10) == 0 ? upTo(63) - 1 : 1 + random.nextInt(20);
+    int s = random.nextInt(40) == 0 ? far() : random.nextInt(14) - 1;
     is("send(" + b + ", " + what + ")", x.send(b, what), model.send(b, what));
     is("think(" + r + ", " + b + ", " + what + ")", x.think(r, b, what), model.think(r, b, what));
     is("errand(" + set + ", " + visits + ")", x.errand(set, visits), model.errand(set, visits));
@@ -132,7 +140,7 @@ public final class ModelTests {
     int r = reader();
     int other = reader();
     int b = book();
-    int p = random.nextInt(12) == 0 ? random.nextInt(12) - 1 : random.nextInt(3);
+    int p = random.nextInt(12) == 0 ? upTo(12) - 1 : random.nextInt(3);
     int m = m();
     switch (random.nextInt(5)) {
       case 0 -> is("unlike(" + r + ", " + other + ")", x.unlike(r, other), model.unlike(r, other));
@@ -147,6 +155,8 @@ public final class ModelTests {
       }
     }
     for (int i = -1; i < 12; i++) is("lies(" + i + ")", x.lies(i), model.lies(i));
+    int i = upTo(12);
+    is("lies(" + i + ")", x.lies(i), model.lies(i));
   }
 
   private void callKnown() {
@@ -165,7 +175,7 @@ public final class ModelTests {
         is("untell(" + i + ")", x.untell(i), model.untell(i));
       }
       case 3 -> {
-        int by = random.nextInt(20) == 0 ? random.nextInt(2000) - 500 : random.nextInt(4);
+        int by = random.nextInt(20) == 0 ? upTo(2000) - 500 : random.nextInt(4);
         is("later(" + by + ")", x.later(by), model.later(by));
       }
       case 4 -> is("fit(" + r + ", " + m + ", " + k + ")", x.fit(r, m, k), model.fit(r, m, k));

@@ -99,7 +99,7 @@ final class RandomText {
 
   private void addOnceLines(List<List<String>> lines, int from) {
     List<List<String>> more = new ArrayList<>();
-    if (random.nextInt(3) != 0) more.add(formulaLine("law"));
+    if (random.nextBoolean()) more.add(formulaLine("law"));
     if (random.nextInt(3) != 0) more.add(formulaLine("bend"));
     if (random.nextInt(5) != 0) {
       more.add(List.of("quarrel", PlainText.QUARRELS.get(random.nextInt(4)), ";"));
@@ -143,6 +143,8 @@ final class RandomText {
 
   private List<String> formulaLine(String word) {
     List<String> line = new ArrayList<>(List.of(word));
+    // Most laws should tell BOOKS apart, so that orders differ.
+    if (random.nextBoolean()) line.addAll(List.of(word.equals("law") ? "want" : "old", random.nextBoolean() ? "+" : "-"));
     formula(line, random.nextInt(4), word);
     line.add(";");
     return line;
@@ -152,7 +154,7 @@ final class RandomText {
     int parts = 1 + random.nextInt(4);
     for (int i = 0; i < parts; i++) {
       if (i > 0) {
-        String[] joins = {"+", "-", "*", "+", "-", "/", "%", "<", ">", "=", "and", "or"};
+        String[] joins = {"+", "-", "*", "+", "-", "+", "-", "*", "/", "%", "<", ">", "=", "and", "or"};
         into.add(joins[random.nextInt(joins.length)]);
         if (random.nextInt(5) == 0 && (into.get(into.size() - 1).equals("and") || into.get(into.size() - 1).equals("or"))) {
           into.add("not");
