@@ -1203,18 +1203,19 @@ public final class WantShelves {
         }
 
         private boolean takeSigned() {
-            if (token.kind != '-') {
-                return takeNumber(0, MOST_WANT);
+            int from = token.place;
+            boolean below = token.kind == '-';
+            if (below) {
+                token.advance();
             }
-            int signPlace = token.place;
+            if (token.kind != Scanner.NUMBER) {
+                return refuse();
+            }
+            if (token.number > MOST_WANT) {
+                return blame(NO_SUCH_NUMBER, from);
+            }
+            taken = below ? -token.number : token.number;
             token.advance();
-            if (token.kind == Scanner.NUMBER && token.number > MOST_WANT) {
-                return blame(NO_SUCH_NUMBER, signPlace);
-            }
-            if (!takeNumber(0, MOST_WANT)) {
-                return false;
-            }
-            taken = -taken;
             return true;
         }
 

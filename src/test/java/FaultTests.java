@@ -106,6 +106,7 @@ public final class FaultTests {
     }
     String[] free = {"e", "both", "one", "sign", "term", "unit", "line", "library", "n", "v", "name", "read", "topics"};
     for (String word : free) sound("topic " + word + ";book " + word + " " + word + " 1;reader " + word + " odds 1;");
+    sound("topic ab;topic ba;topic b;topic abcdefgh;book ab ab 1 ba 2;book ba;");
     due(HEAD + "topic y;", 3, 22);
     due("book a;book b;book a;", 3, 19);
     due("reader a odds 1;reader a", 3, 23);
@@ -173,6 +174,8 @@ public final class FaultTests {
     WantShelves x = Due.told("book a;reader p odds 0;" + nots + ";");
     Due.is("thirty times seven nots", x.key(0, 0), 1);
     Due.is("units", x.about(12), 30);
+    WantShelves last = Due.told("book a;reader p odds 0;" + nots.substring(0, nots.length() - 1) + "1;");
+    Due.is("thirty times seven nots, the last of 1", last.key(0, 0), 0);
     String deep = "1-(2-(3-(4-(5-(6-(7-(8)))))))";
     WantShelves y = Due.told("book a;reader p odds 0;law " + deep + ";");
     Due.is(deep, y.key(0, 0), 1 - (2 - (3 - (4 - (5 - (6 - (7 - 8)))))));
