@@ -2,11 +2,18 @@ import java.util.Random;
 
 /** Random libraries and calls, each answer held against the plain model's. */
 public final class ModelTests {
+  private static final int MOST_CALLS = 512;
+  /** A text takes 80 feeds, and five calls more. */
+  private static final int MOST_TOLD = 85;
+  /** Of one call() here: 45 readings, and as many taken back. */
+  private static final int MOST_AT_ONCE = 92;
+
   private final Random random;
   private final WantShelves x = new WantShelves();
   private final PlainModel model = new PlainModel();
   private final String run;
   private int mostBooks;
+  private int calls;
 
   private ModelTests(long seed) {
     random = new Random(seed);
@@ -14,7 +21,7 @@ public final class ModelTests {
   }
 
   public static void main(String[] args) {
-    int runs = args.length > 0 ? Integer.parseInt(args[0]) : 300;
+    int runs = args.length > 0 ? Integer.parseInt(args[0]) : 1500;
     long first = args.length > 1 ? Long.parseLong(args[1]) : 1;
     for (long seed = first; seed < first + runs; seed++) new ModelTests(seed).go();
     Due.close();
@@ -23,22 +30,28 @@ public final class ModelTests {
   private void go() {
     mostBooks = random.nextInt(3) == 0 ? 10 : 6;
     int libraries = 1 + random.nextInt(3);
-    for (int i = 0; i < libraries; i++) {
+    for (int i = 0; i < libraries && room(MOST_TOLD + MOST_AT_ONCE); i++) {
       tell();
-      int calls = 40 + random.nextInt(80);
-      for (int j = 0; j < calls; j++) call();
-      for (int what = -1; what < 16; what++) is("about(" + what + ")", x.about(what), model.about(what));
+      int more = 40 + random.nextInt(80);
+      for (int j = 0; j < more && room(MOST_AT_ONCE); j++) call();
     }
+    for (int what = -1; what < 16; what++) is("about(" + what + ")", x.about(what), model.about(what));
   }
 
-  private void is(String call, long got, long want) { Due.is(run + call, got, want); }
+  /** Whether so many calls are left of those that the document promises, and some for the end. */
+  private boolean room(int more) { return calls + more + 17 <= MOST_CALLS; }
 
-  private void is(String call, boolean got, boolean want) { Due.is(run + call, got, want); }
+  private void is(String call, long got, long want) {
+    calls++;
+    Due.is(run + call, got, want);
+  }
+
+  private void is(String call, boolean got, boolean want) { is(call, got ? 1 : 0, want ? 1 : 0); }
 
   private void tell() {
     RandomText texts = new RandomText(random, mostBooks);
-    int faulty = random.nextInt(6);
-    for (int i = 0; i < faulty; i++) tellOne(texts.broken());
+    int faulty = random.nextInt(4);
+    for (int i = 0; i < faulty && room(2 * MOST_TOLD); i++) tellOne(texts.broken());
     tellOne(texts.sound());
   }
 
