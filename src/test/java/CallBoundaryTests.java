@@ -102,6 +102,11 @@ public final class CallBoundaryTests {
     }
   }
 
+  private static void sameButFault(String call, WantShelves x, WantShelves other) {
+    String first = "fault: .*\n";
+    Due.is(call + " leaves all as it was", Portrait.of(x).replaceFirst(first, "").equals(Portrait.of(other).replaceFirst(first, "")), true);
+  }
+
   /** A call that answers so, and after which all stays. */
   private static void refused(String call, ToLongFunction<WantShelves> of, long due) {
     WantShelves x = busy();
@@ -262,12 +267,50 @@ public final class CallBoundaryTests {
       Due.is("bytes then", x.about(11), 0);
       WantShelves y = busy();
       y.end(0);
-      Due.feed(y, "$");
-      y.library();
-      // Both have a FAULT now; an empty library would hide what stays, so their FAULTS are made alike.
-      Due.feed(x, "$");
+      sameButFault("library() of " + text, x, y);
+    }
+    nothingOfAFaultyText();
+  }
+
+  /** What a text told ahead of its FAULT is not told by the next one, nor what the LIBRARY before the latest one told. */
+  private static void nothingOfAFaultyText() {
+    String much = Samples.full("reader z odds 7;").replace("wants", "ought").replace("-", "");
+    String bare = "topic s;topic t;topic u;topic v;" + Samples.books(10) + "reader p odds 1;reader q odds 1;law want+ought*100;";
+    String[] texts = {much, Samples.full("law 9;bend 0-9;quarrel most;shelf 1;mood 9;?"), Samples.full("law 9;bend 0-9;quarrel most;shelf 1;mood 9;"),
+      "topic s;book a s 9;reader p odds 9 wants s 9 ought s 9;law 1;bend 1;quarrel least;shelf 9;mood 0;",
+      "law not 1;bend not 1;", "law not(want+ought*100)+1-2*3;bend not(old+1)"};
+    for (String text : texts) {
+      WantShelves x = new WantShelves();
+      Due.feed(x, text);
       x.library();
-      same("library() of " + text, x, y);
+      x.library();
+      Due.feed(x, bare);
+      Due.is("a bare one behind another", x.library(), 10);
+      for (int t = 0; t < 4; t++) {
+        for (int b = 0; b < 10; b++) Due.is("its weight " + b + " " + t, x.weight(b, t), 0);
+        for (int r = 0; r < 2; r++) Due.is("its want " + r + " " + t, x.wants(r, t), 0);
+      }
+      Due.is("its odds", x.reader(0, 0), 1);
+      Due.is("its quarrel", x.about(14), 0);
+      Due.is("its units", x.about(12), 3);
+      Due.is("its shelf", x.steps(9), 12);
+      x.read(0, 0);
+      Due.is("its bend", x.wants(0, 0), 0);
+      String weighed = "topic s;book a s 1;reader p odds 1 wants s 1;";
+      Due.feed(x, text);
+      x.library();
+      x.library();
+      Due.feed(x, weighed);
+      Due.is("a weighed one behind another", x.library(), 1);
+      Due.is("its law", x.key(0, 0), 1);
+      x.mood(0, 0);
+      Due.is("its mood", x.key(0, 0), 4);
+      Due.feed(x, text);
+      x.library();
+      x.library();
+      Due.feed(x, weighed.replace(" wants s 1", "") + "law ought;");
+      x.library();
+      Due.is("its ought", x.key(0, 0), 0);
     }
   }
 
@@ -332,6 +375,12 @@ public final class CallBoundaryTests {
     WantShelves x = busy();
     for (int r : and(-1, 2)) for (int what = 0; what < 4; what++) Due.is("reader(" + r + ", " + what + ")", x.reader(r, what), -2);
     for (int what : and(-1, 4)) Due.is("reader(0, " + what + ")", x.reader(0, what), -2);
+    Due.is("one who is in", x.reader(0, 2), 1);
+    Due.is("one who is not", x.reader(1, 2), 0);
+    x.comes(0);
+    x.comes(1);
+    Due.is("one who went", x.reader(0, 2), 0);
+    Due.is("one who came", x.reader(1, 2), 1);
     Due.is("no mood is NONE", x.reader(0, 1), NONE);
     Due.is("a mood of the last topic", x.reader(1, 1), 1);
     Due.is("one more reader", Due.told(Samples.full("")).reader(6, 0), -2);
@@ -543,6 +592,9 @@ public final class CallBoundaryTests {
     refused("errand(7, 3), one out", x -> x.errand(7, 3), NONE);
     refused("errand(3, 3)", x -> x.errand(3, 3), 4);
     refused("errand(0, 3)", x -> x.errand(0, 3), 0);
+    Due.is("all bits, none out", Due.told(Samples.TWO).errand(-1, 1), NONE);
+    Due.is("the highest bit, none out", Due.told(Samples.TWO).errand(LEAST, 1), NONE);
+    Due.is("the highest bit and a book", Due.told(Samples.TWO).errand(LEAST + 1, 1), NONE);
     Due.is("no readers", Due.told("book a;").errand(1, 1), NONE);
     Due.is("no readers, no books", Due.told("book a;").errand(0, 1), NONE);
   }
@@ -673,6 +725,15 @@ public final class CallBoundaryTests {
     for (int what = 0; what < 3; what++) Due.is("one went out: was(" + what + ")", x.was(what), 0);
     x.out(2);
     Due.is("and came back", x.was(1), 1);
+    x.left(1);
+    Due.is("all are left", x.was(0), 1);
+    x.out(1);
+    Due.is("more are left than stand there", x.was(0), 0);
+    x.out(0);
+    x.out(2);
+    Due.is("none stands there", x.was(0), 0);
+    x.hush();
+    Due.is("none stands there, none is left", x.was(0), 4);
   }
 
   private static void p30One() {
@@ -837,6 +898,23 @@ public final class CallBoundaryTests {
     x.read(1, 1);
     Due.is("back(0) is the latest of it", x.back(0), 1);
     Due.is("the others stay", x.back(2), 2);
+    // Wants, MOODS, who is IN, what is OUT, was read: each is kept, and each comes back.
+    WantShelves five = Due.told(Samples.TWO);
+    five.image(0);
+    five.mood(1, 1);
+    five.comes(0);
+    five.out(2);
+    five.read(0, 0);
+    five.image(1);
+    five.back(0);
+    int[] first = {NONE, 0, 0, 0, 2, -1};
+    int[] second = {1, 1, 4, 1, 4, -2};
+    for (int i = 0; i < 2; i++) {
+      int[] due = i == 0 ? first : second;
+      int[] is = {five.reader(1, 1), five.about(3), five.about(4), five.reader(0, 3), five.wants(0, 0), five.wants(0, 1)};
+      for (int j = 0; j < is.length; j++) Due.is("box " + i + " is back, number " + j, is[j], due[j]);
+      five.back(1);
+    }
     WantShelves y = busy();
     Due.is("image(1)", y.image(1), 1);
     WantShelves z = busy();

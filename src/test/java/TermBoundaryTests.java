@@ -26,6 +26,7 @@ public final class TermBoundaryTests {
     bentWantsAreBounded();
     undoNone();
     redoTillAnotherAct();
+    eachActAlone();
     oldestActsGo();
     actsOfAllSorts();
     unlikeTwos();
@@ -39,6 +40,7 @@ public final class TermBoundaryTests {
     rowsFirstAndHowMany();
     hidePlaces();
     pretendNone();
+    pretendLikeOnes();
     pretendIsOfWantsAlone();
     restTwentyTurns();
     restNeverRests();
@@ -58,7 +60,10 @@ public final class TermBoundaryTests {
   private static int law(String law) { return Due.told("book a;reader p odds 0;law " + law + ";").key(0, 0); }
 
   private static void orders(String call, WantShelves x, int party, int... due) {
-    for (int i = 0; i < due.length; i++) Due.is(call + ": book(" + party + ", " + i + ")", x.book(party, i), due[i]);
+    for (int i = 0; i < due.length; i++) {
+      Due.is(call + ": book(" + party + ", " + i + ")", x.book(party, i), due[i]);
+      Due.is(call + ": place(" + party + ", " + due[i] + ")", x.place(party, due[i]), i);
+    }
     Due.is(call + ": book behind the last", x.book(party, due.length), NONE);
   }
 
@@ -214,6 +219,11 @@ public final class TermBoundaryTests {
     String apart = "topic x;book a;book b x 1;reader p odds 0 wants x 1;reader q odds 0;law want*" + LEAST_INT + "+(want=0);quarrel ";
     orders("least of all", Due.told(apart + "least;"), 3, 0, 1);
     orders("most of all", Due.told(apart + "most;"), 3, 0, 1);
+    // KEYS of p: 5 4 3 0, of q: 0 3 3 9: together 5 7 6 9, the least 0 3 3 0, the greatest 5 4 3 9.
+    String two = "topic x;topic y;book a x 5;book b x 4 y 3;book c x 3 y 3;book d y 9;reader p odds 1 wants x 1;reader q odds 1 wants y 1;";
+    orders("together", Due.told(two), 3, 3, 1, 2, 0);
+    orders("the least of them", Due.told(two + "quarrel least;"), 3, 1, 2, 0, 3);
+    orders("the greatest of them", Due.told(two + "quarrel most;"), 3, 3, 0, 1, 2);
     // Four times 2 to the 30th is 0 again: like BOOK 0.
     String six = "book a;book b;reader p odds 0;reader q odds 0;reader r odds 0;reader s odds 0;law number*8192*8192*16;";
     orders("four wrap to 0", Due.told(six), 15, 0, 1);
@@ -322,6 +332,44 @@ public final class TermBoundaryTests {
     y.image(0);
     y.end(0);
     Due.is("what is no act leaves it", y.redo(), true);
+  }
+
+  /** Each ACT taken back and done again changes what it is about, and nothing else. */
+  private static void eachActAlone() {
+    for (int sort = 0; sort < 4; sort++) {
+      WantShelves x = Due.told(Samples.TWO);
+      x.mood(0, 1);
+      x.mood(1, 1);
+      x.comes(1);
+      x.out(1);
+      x.read(1, 2);
+      int[] before = {2, 2, 1, 1, 1, 2, -1, 0, 3};
+      shows("before act " + sort, x, before);
+      int[] then = before.clone();
+      if (sort == 0) then[0] = x.comes(0) + 2;
+      if (sort == 1) then[2] = x.mood(0, 0) - 1;
+      if (sort == 2) then[1] = x.out(0) + 2;
+      if (sort == 3) {
+        // bend old+weight-1: a has 3 of x, nothing of y.
+        then[4] = x.read(0, 0) + 1;
+        then[5] = 4;
+        then[6] = -2;
+      }
+      shows("act " + sort, x, then);
+      for (int i = 0; i < 2; i++) {
+        x.undo();
+        shows("act " + sort + " taken back", x, before);
+        x.redo();
+        shows("act " + sort + " done again", x, then);
+      }
+    }
+  }
+
+  /** IN, OUT, both MOODS, how often there was reading, all wants. */
+  private static void shows(String when, WantShelves x, int[] due) {
+    int[] is = {x.about(3), x.about(4), x.reader(0, 1), x.reader(1, 1), x.about(5), x.wants(0, 0), x.wants(0, 1),
+      x.wants(1, 0), x.wants(1, 1)};
+    for (int i = 0; i < is.length; i++) Due.is(when + ", number " + i, is[i], due[i]);
   }
 
   // "40 at most are kept, the oldest go".
@@ -465,6 +513,17 @@ public final class TermBoundaryTests {
     Due.is("all ten, three visits", x.errand(1023, 3), 20);
     // The first and the last, and one in the middle: p, q and r have one of them first.
     Due.is("three far ones, three visits", x.errand(1 | 512 | 16, 3), 6);
+    // 0 and 4 are at places 1 and 0 for r: 4 STEPS with him, 2 with q.
+    Due.is("three far ones, two visits", x.errand(1 | 512 | 16, 2), 6);
+    // For each PARTY 0 or 9 is the last: KEYS go up or down with i, or are alike, but for 4 and 5 going ahead.
+    Due.is("three far ones, one visit", x.errand(1 | 512 | 16, 1), 24);
+    // Each of three has one of the last three BOOKS first; STEPS to places 0 to 2 are 1, 4, 7.
+    WantShelves three = Due.told("topic x;topic y;topic z;book n;book o;book a x 1;book b y 1;book c z 1;"
+        + "reader p odds 1 wants x 1;reader q odds 1 wants y 1;reader r odds 1 wants z 1;shelf 1;");
+    int[][] due = {{0, 0, 0}, {2, 2, 2}, {2, 2, 2}, {8, 4, 4}, {2, 2, 2}, {8, 4, 4}, {8, 4, 4}, {14, 10, 6}};
+    for (int set = 0; set < 8; set++) {
+      for (int k = 1; k <= 3; k++) Due.is("errand of " + set + " of three, " + k, three.errand(set << 2, k), due[set][k - 1]);
+    }
     Due.is("one more than there are", x.errand(1024, 1), NONE);
     x.out(9);
     Due.is("one is out", x.errand(1023, 3), NONE);
@@ -530,6 +589,8 @@ public final class TermBoundaryTests {
     Due.is("one behind the first: at 1", x.hide(0, 1, 1, 2), 4);
     WantShelves y = Due.told("topic x;book a;reader p odds 0;");
     Due.is("one book, p 9", y.hide(0, 0, 9, 1), 3);
+    Due.is("one book, p 9 again", y.hide(0, 0, 9, 1), 3);
+    Due.is("one book, p 0, m 2", y.hide(0, 0, 0, 2), 5);
     Due.is("one book, p 10", y.hide(0, 0, 10, 1), NONE);
     // Two rows have a, b; two have b, a; 0 is a tie that a wins for m 1: -1 has b, 0 and 1 have a.
     WantShelves z = Due.told("topic x;book a x 1;book b;reader p odds 0;law want*2-(number=0);");
@@ -538,10 +599,23 @@ public final class TermBoundaryTests {
     Due.lies("most rows", z, -2);
     Due.is("a first", z.hide(0, 0, 0, 2), 2);
     Due.lies("a first", z, 1);
-    // a b by one half, b a by the other (0 is left to a third order): of like ones the first.
-    WantShelves tie = Due.told("topic x;book a x 1;book b;book c;reader p odds 0;law want+(number=2)*(want+1)*0;");
-    Due.is("like ones", tie.hide(0, 2, 2, 1), 2);
-    Due.lies("like ones", tie, 0);
+    // KEYS of a: -4 -2 0 2 4, of b 1, of c -1: b c a by two ROWS, b a c by one, a b c by two; of like ones the first.
+    WantShelves tie = Due.told("topic x;book a x 1;book b;book c;reader p odds 0;law want*2+(number=1)-(number=2);");
+    Due.is("like ones", tie.hide(0, 1, 9, 2), 2);
+    Due.lies("like ones", tie, -2);
+    Due.is("like ones, b not first", tie.hide(0, 0, 1, 2), 2);
+    Due.lies("like ones, b not first", tie, 1);
+    // Three ROWS, three ORDERS.
+    Due.is("like ones, one each", tie.hide(0, 0, 2, 1), 1);
+    Due.lies("like ones, one each", tie, -1);
+    Due.is("like ones, two of three", tie.hide(0, 0, 1, 1), 1);
+    Due.lies("like ones, two of three", tie, 0);
+    // BOOK 0 never comes first, whatever was asked before.
+    WantShelves never = Due.told("topic x;book a;book b;reader p odds 0;law number;");
+    Due.is("never first", never.hide(0, 0, 0, 2), NONE);
+    Due.is("always second", never.hide(0, 0, 1, 2), 5);
+    Due.is("never first then", never.hide(0, 0, 0, 1), NONE);
+    Due.is("always second by fewer", never.hide(0, 0, 1, 1), 3);
   }
 
   // "by how many STEPS fewer than as he is (0, if by none)".
@@ -575,6 +649,22 @@ public final class TermBoundaryTests {
     Due.lies("m 1", x, 1, -1);
   }
 
+  // "of like ones the first", where none is the first place.
+  private static void pretendLikeOnes() {
+    // c is p's; whatever he pretends, q has a first by far; c comes second if x > 0 in his ROW, y does not matter.
+    WantShelves x = Due.told("topic x;topic y;topic z;book a z 9;book b;book c x 1;reader p odds 0 wants x 1 wants z -9;"
+        + "reader q odds 0 wants x -2 wants z 9;");
+    // As he is: a 0, b 0, c -1 together. By a ROW: a 81 + 9z, c x - 2.
+    Due.is("third as he is", x.place(3, 2), 2);
+    Due.is("m 1: none is better", x.pretend(0, 1, 1), 0);
+    Due.lies("m 1: none is better", x);
+    WantShelves y = Due.told("topic x;topic y;topic z;book a z 9;book b;book c x 1;reader p odds 0 wants x 1;"
+        + "reader q odds 0 wants x -1 wants z 9;");
+    Due.is("m 2: third as he is", y.place(3, 2), 2);
+    Due.is("m 2: second by x 2", y.pretend(0, 1, 2), 1);
+    Due.lies("m 2: second by x 2", y, 2, -2, -2);
+  }
+
   // "till a turn of both changes none": "after how many turns (the last one, too); NONE if 20 were not enough".
   private static void restTwentyTurns() {
     // Each outbids the other by the least ROW that does: p's bid for a is 5x + y, q's for b is 5z + w, each up to 12.
@@ -605,6 +695,16 @@ public final class TermBoundaryTests {
     Due.lies("all is alike", x, 7, -9, 9, 0);
     Due.is("the second one first", x.rest(1, 0, 2), 1);
     Due.lies("the second one first", x, 9, 0, 7, -9);
+    // KEYS are x, 0, 2x: a is first if both x are 0 together, c if they are above 0, else b.
+    String three = "topic x;book a x 1;book b;book c x 2;";
+    // p (a) takes -1, q (c) can't help it and stays as he was, not as he tried.
+    WantShelves stays = Due.told(three + "reader p odds 1;reader q odds 1 wants x 1;");
+    Due.is("one takes a row, the other stays", stays.rest(0, 1, 1), 2);
+    Due.lies("one takes a row, the other stays", stays, -1, 1);
+    // q (a) takes -1; p (c) takes 2, q -2; then p can't help it and stays by that ROW.
+    WantShelves later = Due.told(three + "reader p odds 1 wants x 1;reader q odds 1;");
+    Due.is("both take rows, then stay by them", later.rest(0, 1, 2), 3);
+    Due.lies("both take rows, then stay by them", later, 2, -2);
     WantShelves y = Due.told(Samples.books(1) + "reader p odds 0;reader q odds 0;");
     Due.is("no topics", y.rest(0, 1, 1), 1);
     Due.lies("no topics", y);
@@ -787,5 +887,14 @@ public final class TermBoundaryTests {
     last.out(8);
     last.out(9);
     Due.is("the last two, out", last.ask(0, 2, 0, 0), 89);
+    // Ten BOOKS, 625 ROWS. 0 is ahead of 1, 2, 3 if s >= t, by 375; of 4 if 4s - 4t >= 9u, by 5 * (25 + 22 + 15 + 3).
+    WantShelves full = Due.told(Samples.full(""));
+    Due.is("all that can be", full.ask(0, 2, 0, 0), 4);
+    Due.is("all that can be: left", full.ask(0, 2, 1, 0), 325);
+    // Two BOOKS behind ten: nothing of the ten is asked for.
+    Due.feed(full, "topic x;book a x 1;book b;reader p odds 0;law 0-number*9;");
+    full.library();
+    Due.is("two behind ten", full.ask(0, 2, 0, 0), 1);
+    Due.is("two behind ten: left", full.ask(0, 2, 1, 0), 5);
   }
 }

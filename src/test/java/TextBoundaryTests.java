@@ -132,6 +132,8 @@ public final class TextBoundaryTests {
     faults("quarrels sum;", 2, 0);
     faults("quarrelss sum;", 1, 0);
     sound("topic a;topic z;topic aa;topic zz;");
+    sound("topic b;topic bb;topic bbb;topic bbbbbbbb;");
+    sound("book ac;book bb;book ca;book y;book z;book az;book ya;book aaaaaaaa;book zzzzzzzz;book zzzzzzza;");
     // Beyond eight letters a word is no NAME that begins alike.
     faults("topic abcdefgh;book a abcdefghi 1;", 1, 22);
     // 14 letters: the last 13 are those of no NAME either.
@@ -342,8 +344,14 @@ public final class TextBoundaryTests {
     faults("reader p odds -1;", 2, 14);
   }
 
-  // "quarrel (sum), shelf (.. 5), mood (.. 3)", "want without", "old .. without".
+  // "0 if not told"; "quarrel (sum), shelf (.. 5), mood (.. 3)", "want without", "old .. without".
   private static void notTold() {
+    WantShelves bare = Due.told("topic s;topic t;topic u;topic v;" + "book a s 9 t 9 u 9 v 9;book b;reader p odds 1;law want*1000+ought;");
+    Due.is("no want, no ought", bare.key(0, 0), 0);
+    for (int t = 0; t < 4; t++) {
+      Due.is("no weight of topic " + t, bare.weight(1, t), 0);
+      Due.is("no want of topic " + t, bare.wants(0, t), 0);
+    }
     WantShelves x = Due.told("topic x;" + "book a x 1;book b x 2;" + books(10).substring(14) + "reader p odds 1 wants x 2;");
     Due.is("no quarrel: sum", x.about(14), 0);
     Due.is("no shelf: place 4", x.steps(4), 5);
@@ -377,6 +385,12 @@ public final class TextBoundaryTests {
         faults("law " + full + join + unit + ";", 2, 4 + full.length() + join.length());
         faults("bend " + full + join + unit + ";", 2, 5 + full.length() + join.length());
       }
+    }
+    for (String join : joins) {
+      if (join.equals("<")) continue;
+      String alike = "1" + (join + "1").repeat(29);
+      Due.is("30 units joined by" + join, Due.told("law " + alike + ";").about(12), 30);
+      faults("law " + alike + join + "1;", 2, 4 + alike.length() + join.length());
     }
     faults("law " + full + " and not 1;", 2, 4 + full.length() + 9);
     faults("law " + full + " and not not (1);", 2, 4 + full.length() + 13);
@@ -418,6 +432,11 @@ public final class TextBoundaryTests {
     faults("law not(not(not(not(1))));", 2, 19);
     sound("law (not(not(not(1))));");
     faults("law (not(not(not(not 1))));", 2, 17);
+    sound("law ((((((not 1))))));");
+    faults("law (((((((not 1)))))));", 2, 11);
+    faults("law (((((((1 and not 1)))))));", 2, 17);
+    faults("law not not not not not not not (1);", 2, 32);
+    sound("law not not not not not not (1);");
     // Those beside one another are not within one another.
     sound("law (((((((1)))))))+(((((((1)))))));");
     sound("law not not not not not not not 1 or not not not not not not not 1;");
@@ -430,6 +449,10 @@ public final class TextBoundaryTests {
     // What is within is worked out first, seven deep.
     Due.is("seven brackets", Due.told("book a;reader p odds 0;law 9-(8-(7-(6-(5-(4-(3-(2)))))));").key(0, 0), 9 - (8 - (7 - (6 - (5 - (4 - (3 - 2)))))));
     Due.is("seven nots", Due.told("book a;reader p odds 0;law not not not not not not not 5;").key(0, 0), 0);
+    // As many marks as can be: 30 units, each behind seven nots.
+    String many = "not not not not not not not 0" + " and not not not not not not not 0".repeat(29);
+    Due.is("30 times seven nots of 0", Due.told("book a;reader p odds 0;law " + many + ";").key(0, 0), 1);
+    Due.is("30 times, the last of 1", Due.told("book a;reader p odds 0;law " + many.substring(0, many.length() - 1) + "1;").key(0, 0), 0);
     Due.is("six nots", Due.told("book a;reader p odds 0;law not not not not not not 5;").key(0, 0), 1);
   }
 
@@ -531,7 +554,9 @@ public final class TextBoundaryTests {
       {"law +1;", 4}, {"law 1 not 1;", 6}, {"law 1+not 1;", 6}, {"law 1*not 1;", 6}, {"law 1<not 1;", 6},
       {"law 1<2<3;", 7}, {"law 1=2=3;", 7}, {"law 1<>2;", 6}, {"law ();", 5}, {"law (1;", 6}, {"law 1);", 5},
       {"law (1));", 7}, {"law or 1;", 4}, {"law 1 or or 1;", 9}, {"law 1 and and 1;", 10}, {"law x;", 4},
-      {"law wants;", 4}, {"law odds;", 4}, {"bend;", 4}, {"bend (1+);", 8}};
+      {"law wants;", 4}, {"law odds;", 4}, {"bend;", 4}, {"bend (1+);", 8}, {"law 1 or;", 8}, {"law 1 and;", 9},
+      {"law not;", 7}, {"law 1<;", 6}, {"law 1*;", 6}, {"law (1 or);", 9}, {"law (1;", 6}, {"topic x;reader p odds 1 wants 1;", 30},
+      {"topic x;reader p odds 1 ought 1;", 30}, {"topic x;reader p odds 1 wants;", 29}, {"topic x;reader p odds 1 wants -1;", 30}};
     for (Object[] row : rows) faults((String) row[0], 2, (Integer) row[1]);
     sound("law (1<2)<3;");
     sound("law not 1<2 and not(1=2)or 3;");
