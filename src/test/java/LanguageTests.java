@@ -22,6 +22,7 @@ public final class LanguageTests {
     nested();
     String source = Files.readString(Path.of("src/main/java/WantShelves.java"));
     words(plain(source));
+    library(plain(source));
     methods(plain(source));
     Due.close();
   }
@@ -60,7 +61,9 @@ public final class LanguageTests {
       Due.is(c + ": fields", fieldsOf(c) <= 20, true);
       for (Method m : c.getDeclaredMethods()) Due.is(m + " has a name of its own", face.contains(m.getName()), false);
       for (Field f : c.getDeclaredFields()) {
-        if (Modifier.isStatic(f.getModifiers())) Due.is(f + " is final", Modifier.isFinal(f.getModifiers()), true);
+        if (!Modifier.isStatic(f.getModifiers())) continue;
+        Due.is(f + " is final", Modifier.isFinal(f.getModifiers()), true);
+        Due.is(f + " is a number or a text", f.getType() == int.class || f.getType() == String.class, true);
       }
     }
   }
@@ -84,6 +87,19 @@ public final class LanguageTests {
     Matcher imports = Pattern.compile("import ([^;]*);").matcher(text);
     while (imports.find()) Due.is("import " + imports.group(1), imports.group(1).equals("java.util.Arrays"), true);
     Due.is("while has no bound of its own", text.contains("while"), false);
+  }
+
+  /** Of the library's classes only such calls as LANGUAGE.md lists. */
+  private static void library(String text) {
+    Set<String> fine = Set.of("Arrays.fill", "System.arraycopy", "Math.max", "Math.min", "Math.floorMod", "Integer.bitCount");
+    Pattern call = Pattern.compile("\\b(Arrays|System|Math|Integer|Long|Character|StringBuilder|String|List)\\.\\w+");
+    Matcher calls = call.matcher(text);
+    int seen = 0;
+    while (calls.find()) {
+      seen++;
+      Due.is(calls.group() + " is listed", fine.contains(calls.group()), true);
+    }
+    Due.is("calls of the library were seen", seen > 20, true);
   }
 
   /** Methods are some sixty lines at most, and take seven parameters at most. */
